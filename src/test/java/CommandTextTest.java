@@ -13,6 +13,7 @@ public final class CommandTextTest {
         everyCommand();
         malformedTexts();
         tooEarlyAtTheLimit();
+        afterALongerText();
         failingCommands();
         everyFailingCommand();
         storedPositions();
@@ -169,6 +170,20 @@ public final class CommandTextTest {
         malformed("stop 0;stop 0;stop 0;stop 0;stop 0;stop 0;stop 0;stop 0;stop", 60);
         malformed("stop 0;stop 0;stop 0;stop 0;stop 0;stop 0;stop 0;line 0 1;st", 60);
         malformed("extend 0 1;extend 0 2;extend 0 3;extend 0 4;extend 0 5;tick ", 59);
+    }
+
+    /** Characters of an earlier text are no part of a later one. */
+    private static void afterALongerText() {
+        TramNetwork network = new TramNetwork();
+        succeeds(network, "stop 1;tick", 2);
+        String[] shorter = {"stop ", "stop", "sto", "stop 1;", "stop 1;tic"};
+        for (String text : shorter) {
+            CHECK.refused("P53 '" + text + "'", ARGUMENT, typing(network, text)::execute);
+            CHECK.same("P54 errorPosition of '" + text + "'", text.length(), network.errorPosition());
+            succeeds(network, "stop 1;tick", 2);
+        }
+        succeeds(network, "stop 1", 1);
+        CHECK.same("P53 tickCount", 6, network.tickCount());
     }
 
     private static void failingCommands() {

@@ -103,6 +103,19 @@ final class Model {
         return answer;
     }
 
+    boolean wouldSucceed(String name, int... a) {
+        World before = world;
+        world = before.copy();
+        try {
+            apply(name, a);
+            return true;
+        } catch (RuntimeException e) {
+            return false;
+        } finally {
+            world = before;
+        }
+    }
+
     private int apply(String name, int... a) {
         switch (name) {
             case "stop":
@@ -255,15 +268,7 @@ final class Model {
     boolean canBoard(int number, int tram) {
         in(number, world.passengers);
         in(tram, world.trams);
-        World before = world.copy();
-        try {
-            board(number, tram);
-            return true;
-        } catch (RuntimeException e) {
-            return false;
-        } finally {
-            world = before;
-        }
+        return wouldSucceed("board", number, tram);
     }
 
     private int alight(int number) {

@@ -2,7 +2,7 @@ import java.util.function.Supplier;
 
 /** Long runs of calls on the program and on the model; after every call each query must answer the same. */
 public final class ModelTest {
-    private static final int RUNS = 60;
+    private static final int RUNS = 48;
     private static final int CALLS = 512;
     private static final String[] WORDS = {"stop", "line", "extend", "tram", "rider", "ticket", "board", "alight",
         "secret", "whisper", "tick"};
@@ -109,10 +109,24 @@ public final class ModelTest {
         }
     }
 
+    private int[] parameters(int word) {
+        return new int[] {parameter(word, 0), parameter(word, 1), parameter(word, 2)};
+    }
+
+    /** Most numbers alone would be refused, so that many are tried where the call should succeed. */
+    private int[] likelyParameters(int word) {
+        int[] drawn = parameters(word);
+        for (int tries = 0; tries < 20 && !model.wouldSucceed(WORDS[word], drawn); tries++) {
+            drawn = parameters(word);
+        }
+        return drawn;
+    }
+
     private void modify(int word) {
-        int a = parameter(word, 0);
-        int b = parameter(word, 1);
-        int c = parameter(word, 2);
+        int[] drawn = below(4) == 0 ? parameters(word) : likelyParameters(word);
+        int a = drawn[0];
+        int b = drawn[1];
+        int c = drawn[2];
         did(WORDS[word] + " " + a + " " + b + " " + c, () -> model.modify(WORDS[word], a, b, c),
             () -> call(word, a, b, c));
     }

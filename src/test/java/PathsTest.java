@@ -12,6 +12,7 @@ public final class PathsTest {
         shortCuts();
         fewerChangesOnALongerWay();
         chain();
+        searchesOneAfterAnother();
         nothingFound();
         missingStops();
         CHECK.finish();
@@ -89,6 +90,22 @@ public final class PathsTest {
             new int[] {8, 7, 6, 5}, new int[] {9, 8});
         bothWays(turned, 0, 9, 9, 4);
         bothWays(turned, 9, 2, 7, 3);
+    }
+
+    /** What one search found must not be taken for an answer of the next. */
+    private static void searchesOneAfterAnother() {
+        TramNetwork network = withLines(7, new int[] {0, 1, 2, 3}, new int[] {4, 5});
+        CHECK.same("P43 distanceByRelaxation(0,3)", 3, network.distanceByRelaxation(0, 3));
+        CHECK.same("P43 distanceByRelaxation(3,2)", 1, network.distanceByRelaxation(3, 2));
+        CHECK.same("P43 distanceByRelaxation(3,0)", 3, network.distanceByRelaxation(3, 0));
+        CHECK.refused("P43 distanceByRelaxation(4,0)", ELEMENT, () -> network.distanceByRelaxation(4, 0));
+        CHECK.same("P42 distance(2,0)", 2, network.distance(2, 0));
+        CHECK.same("P42 distance(0,3)", 3, network.distance(0, 3));
+        CHECK.refused("P42 distance(5,3)", ELEMENT, () -> network.distance(5, 3));
+        CHECK.same("P44 changes(4,5)", 0, network.changes(4, 5));
+        CHECK.refused("P44 changes(6,0)", ELEMENT, () -> network.changes(6, 0));
+        CHECK.same("P45 changesByGrowth(0,3)", 0, network.changesByGrowth(0, 3));
+        CHECK.refused("P45 changesByGrowth(4,3)", ELEMENT, () -> network.changesByGrowth(4, 3));
     }
 
     private static void nothingFound() {

@@ -12,6 +12,7 @@ public final class SecretsTest {
     public static void main(String[] args) {
         addSecret();
         whispering();
+        everyoneOnTheTramHears();
         refusedWhispers();
         truths();
         wisest();
@@ -84,6 +85,18 @@ public final class SecretsTest {
         network.alight(2);
         CHECK.yes("P39 knowledge is never lost", network.knows(2, 0));
         CHECK.same("P40 knowledge is never lost", 4, network.knowerCount(0));
+    }
+
+    private static void everyoneOnTheTramHears() {
+        TramNetwork network = company();
+        network.addSecret(2);
+        for (int passenger = 0; passenger < 5; passenger++) {
+            network.board(passenger, 1);
+        }
+        CHECK.same("P35 whisper", 5, network.whisper(0, 3));
+        for (int passenger = 0; passenger < 5; passenger++) {
+            CHECK.yes("P39 everyone on the tram", network.knows(passenger, 0));
+        }
     }
 
     private static void refusedWhispers() {

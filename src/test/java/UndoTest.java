@@ -6,6 +6,9 @@ public final class UndoTest {
 
     public static void main(String[] args) {
         everyModification();
+        everyModificationCounts();
+        lastAlightings();
+        overwritten();
         lastEight();
         onlyModifications();
         afterAnUndo();
@@ -94,6 +97,114 @@ public final class UndoTest {
         CHECK.same("P56 execute", 3, network.stopCount());
         CHECK.same("P56 execute", 0, network.tickCount());
         CHECK.same("P56 execute", 0, network.tramOfPassenger(0));
+    }
+
+    /** What is left after each undo tells that each call was counted as a modification. */
+    private static void everyModificationCounts() {
+        TramNetwork network = new TramNetwork();
+        network.addStop(0);
+        network.addStop(1);
+        network.addLine(0, 1);
+        network.addTram(0);
+        network.addPassenger(0);
+        network.addPassenger(0);
+        network.save();
+        network.restore();
+        network.sellTicket(0, 0, 3);
+        CHECK.same("P56 sellTicket counts", 0, network.undo());
+        network.sellTicket(0, 0, 3);
+        network.sellTicket(1, 0, 3);
+        network.board(0, 0);
+        network.board(1, 0);
+        network.addSecret(0);
+        network.save();
+        network.restore();
+        network.whisper(0, 1);
+        CHECK.same("P56 whisper counts", 0, network.undo());
+        CHECK.same("P56 whisper", 0, network.carrierOf(0));
+        network.whisper(0, 1);
+        network.alight(1);
+        network.addSecret(0);
+        network.alight(0);
+        network.board(0, 0);
+        network.tick();
+        typing(network, "tick;tick");
+        network.execute();
+        for (int left = 6; left >= 0; left--) {
+            CHECK.same("P56 undo", left, network.undo());
+        }
+        CHECK.refused("P56 undo", STATE, network::undo);
+        CHECK.same("P56 whisper", 0, network.carrierOf(0));
+        CHECK.same("P56 whisper", 1, network.knowerCount(0));
+    }
+
+    private static void lastAlightings() {
+        TramNetwork network = new TramNetwork();
+        network.addStop(0);
+        network.addStop(0);
+        network.addLine(0, 1);
+        network.addLine(0, 1);
+        network.addTram(0);
+        network.addTram(1);
+        network.addPassenger(0);
+        network.sellTicket(0, 0, 9);
+        network.board(0, 0);
+        network.alight(0);
+        network.board(0, 1);
+        network.alight(0);
+        CHECK.no("P56 before the undo", network.isTransfer(0, 1));
+        network.undo();
+        network.undo();
+        CHECK.yes("P56 the line left before", network.isTransfer(0, 1));
+        CHECK.no("P56 the line left before", network.isTransfer(0, 0));
+        network.tick();
+        network.tick();
+        CHECK.no("P56 too late", network.isTransfer(0, 1));
+        network.board(0, 0);
+        network.alight(0);
+        CHECK.yes("P56 not too late", network.isTransfer(0, 1));
+        network.undo();
+        network.undo();
+        CHECK.no("P56 the tick of the alighting before", network.isTransfer(0, 1));
+    }
+
+    /** Other stops, lines and trams take the numbers of those that are restored. */
+    private static void overwritten() {
+        TramNetwork network = new TramNetwork();
+        network.addStop(0);
+        network.addStop(1);
+        network.addStop(2);
+        network.addLine(0, 1);
+        network.extendLine(0, 2);
+        network.addLine(2, 1);
+        network.addTram(0);
+        network.tick();
+        network.save();
+        for (int count = 0; count < 8; count++) {
+            network.undo();
+        }
+        CHECK.same("P56 all undone", 0, network.stopCount());
+        for (int stop = 0; stop < 4; stop++) {
+            network.addStop(3 - stop);
+        }
+        network.addLine(3, 2);
+        network.addLine(1, 0);
+        network.extendLine(1, 3);
+        network.addTram(1);
+        CHECK.same("P58 restore", 0, network.restore());
+        CHECK.same("P58 stopCount", 3, network.stopCount());
+        for (int stop = 0; stop < 3; stop++) {
+            CHECK.same("P58 zoneOf", stop, network.zoneOf(stop));
+            CHECK.same("P58 stopAt", stop, network.stopAt(0, stop));
+        }
+        CHECK.same("P58 lineLength", 3, network.lineLength(0));
+        CHECK.same("P58 lineLength", 2, network.lineLength(1));
+        CHECK.same("P58 stopAt", 2, network.stopAt(1, 0));
+        CHECK.same("P58 stopAt", 1, network.stopAt(1, 1));
+        CHECK.same("P58 lineOfTram", 0, network.lineOfTram(0));
+        CHECK.same("P58 stopOfTram", 1, network.stopOfTram(0));
+        CHECK.yes("P58 isForward", network.isForward(0));
+        CHECK.same("P58 commonStops", 2, network.commonStops(0, 1));
     }
 
     private static void lastEight() {
