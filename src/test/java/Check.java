@@ -1,8 +1,27 @@
+import java.util.Map;
+import java.util.Set;
+import java.util.TreeMap;
+import java.util.TreeSet;
 import java.util.function.Supplier;
 
 /** Counts and prints the answers that are not as due. */
 final class Check {
     private int wrong;
+    private String place = "";
+    private String words = "";
+    private final Map<String, Set<String>> sentences = new TreeMap<>();
+
+    /** All that is checked from here on is checked for this sentence of the document. */
+    void sentence(String place, String words) {
+        this.place = place;
+        this.words = words;
+        sentences.computeIfAbsent(place, ignored -> new TreeSet<>()).add(words);
+    }
+
+    /** The sentences so far, by the place where they stand. */
+    Map<String, Set<String>> sentences() {
+        return sentences;
+    }
 
     void same(String call, long due, long got) {
         if (got != due) {
@@ -47,7 +66,7 @@ final class Check {
 
     void complain(String text) {
         wrong++;
-        System.out.println(text);
+        System.out.println(place.isEmpty() ? text : place + " \"" + words + "\" " + text);
     }
 
     int wrongAnswers() {

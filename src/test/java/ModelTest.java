@@ -1,8 +1,13 @@
+import java.util.ArrayList;
+import java.util.List;
 import java.util.function.Supplier;
 
-/** Long runs of calls on the program and on the model; after every call each query must answer the same. */
+/**
+ * Runs of calls, modifications and questions, on the program and on the model, which must answer the same. A run
+ * ends with the 512th call: what later calls answer is free.
+ */
 public final class ModelTest {
-    private static final int RUNS = 48;
+    private static final int RUNS = 1500;
     private static final int CALLS = 512;
     private static final String[] WORDS = {"stop", "line", "extend", "tram", "rider", "ticket", "board", "alight",
         "secret", "whisper", "tick"};
@@ -14,12 +19,29 @@ public final class ModelTest {
     private final Check check;
     private final TramNetwork network = new TramNetwork();
     private final Model model = new Model();
+    private final List<Question> questions = new ArrayList<>();
     private final StringBuilder story = new StringBuilder();
+    private int calls;
     private long seed;
+
+    private interface OfOne {
+        Object to(int number);
+    }
+
+    private interface OfTwo {
+        Object to(int one, int other);
+    }
+
+    /** The same question to the model and to the program; it may not need both of the numbers. */
+    private record Question(String name, OfTwo due, OfTwo got) {
+    }
 
     private ModelTest(Check check, long seed) {
         this.check = check;
         this.seed = seed * 7919 + 17;
+        collectCounts();
+        collectQuestionsOfOne();
+        collectQuestionsOfTwo();
     }
 
     public static void main(String[] args) {
@@ -44,6 +66,10 @@ public final class ModelTest {
     }
 
     private void same(String call, Supplier<?> due, Supplier<?> got) {
+        if (calls >= CALLS) {
+            return;
+        }
+        calls++;
         String wanted = outcome(due);
         String answered = outcome(got);
         if (!wanted.equals(answered)) {
@@ -60,13 +86,12 @@ public final class ModelTest {
         if (run % 2 == 0) {
             furnish();
         }
-        for (int call = 0; call < CALLS && check.wrongAnswers() == 0; call++) {
+        while (calls < CALLS && check.wrongAnswers() == 0) {
             step(run);
-            if (call % 4 == 3) {
-                compare();
+            for (int asked = below(6); asked > 0; asked--) {
+                ask();
             }
         }
-        compare();
     }
 
     /** A small town with much traffic, so that passengers meet. */
@@ -221,78 +246,77 @@ public final class ModelTest {
         }
     }
 
-    private void compare() {
-        same("stopCount", () -> model.world.stops.size(), network::stopCount);
-        same("lineCount", () -> model.world.lines.size(), network::lineCount);
-        same("tickCount", () -> model.world.ticks, network::tickCount);
-        same("tramCount", () -> model.world.trams.size(), network::tramCount);
-        same("passengerCount", () -> model.world.passengers.size(), network::passengerCount);
-        same("secretCount", () -> model.world.secrets, network::secretCount);
-        same("fullestTram", model::fullestTram, network::fullestTram);
-        same("meanRides", model::meanRides, network::meanRides);
-        same("truthShare", model::truthShare, network::truthShare);
-        same("isConsistent", () -> true, network::isConsistent);
-        same("errorPosition", model::errorPosition, network::errorPosition);
-        same("failedCommand", model::failedCommand, network::failedCommand);
-        for (int a = -1; a <= 10; a++) {
-            compareOne(a);
-            for (int b = -1; b <= 10; b++) {
-                compareTwo(a, b);
-            }
+    private void ask() {
+        Question question = questions.get(below(questions.size()));
+        int one = below(6) == 0 ? below(22) - 1 : below(8);
+        int other = below(6) == 0 ? below(12) - 1 : below(6);
+        did(question.name + " " + one + " " + other, () -> question.due.to(one, other),
+            () -> question.got.to(one, other));
+    }
+
+    private void collect(String name, Supplier<?> due, Supplier<?> got) {
+        questions.add(new Question(name, (one, other) -> due.get(), (one, other) -> got.get()));
+    }
+
+    private void collectOne(String name, OfOne due, OfOne got) {
+        questions.add(new Question(name, (one, other) -> due.to(one), (one, other) -> got.to(one)));
+    }
+
+    private void collectTwo(String name, OfTwo due, OfTwo got) {
+        questions.add(new Question(name, due, got));
+    }
+
+    private void collectCounts() {
+        collect("stopCount", () -> model.world.stops.size(), network::stopCount);
+        collect("lineCount", () -> model.world.lines.size(), network::lineCount);
+        collect("tickCount", () -> model.world.ticks, network::tickCount);
+        collect("tramCount", () -> model.world.trams.size(), network::tramCount);
+        collect("passengerCount", () -> model.world.passengers.size(), network::passengerCount);
+        collect("secretCount", () -> model.world.secrets, network::secretCount);
+        collect("fullestTram", model::fullestTram, network::fullestTram);
+        collect("meanRides", model::meanRides, network::meanRides);
+        collect("truthShare", model::truthShare, network::truthShare);
+        collect("isConsistent", () -> true, network::isConsistent);
+        collect("errorPosition", model::errorPosition, network::errorPosition);
+        collect("failedCommand", model::failedCommand, network::failedCommand);
+    }
+
+    private void collectQuestionsOfOne() {
+        collectOne("zoneOf", model::zoneOf, network::zoneOf);
+        collectOne("isTerminus", model::isTerminus, network::isTerminus);
+        collectOne("lineLength", model::lineLength, network::lineLength);
+        collectOne("lineOfTram", model::lineOfTram, network::lineOfTram);
+        collectOne("stopOfTram", model::stopOfTram, network::stopOfTram);
+        collectOne("isForward", model::isForward, network::isForward);
+        collectOne("crowdOf", model::crowdOf, network::crowdOf);
+        collectOne("stopOfPassenger", model::stopOfPassenger, network::stopOfPassenger);
+        collectOne("tramOfPassenger", model::tramOfPassenger, network::tramOfPassenger);
+        collectOne("ridesOf", model::ridesOf, network::ridesOf);
+        collectOne("carrierOf", model::carrierOf, network::carrierOf);
+        collectOne("isTruth", secret -> model.carrierOf(secret) < 0, network::isTruth);
+        collectOne("knowerCount", model::knowerCount, network::knowerCount);
+        collectOne("wisestPassenger", model::wisestPassenger, network::wisestPassenger);
+        collectOne("writeLine", model::writeLine, network::writeLine);
+        collectOne("writePassenger", model::writePassenger, network::writePassenger);
+        for (int often = 0; often < 5; often++) {
+            collectOne("textAt", model::textAt, network::textAt);
         }
-        compareTexts();
     }
 
-    private void compareOne(int a) {
-        same("zoneOf " + a, () -> model.zoneOf(a), () -> network.zoneOf(a));
-        same("isTerminus " + a, () -> model.isTerminus(a), () -> network.isTerminus(a));
-        same("lineLength " + a, () -> model.lineLength(a), () -> network.lineLength(a));
-        same("lineOfTram " + a, () -> model.lineOfTram(a), () -> network.lineOfTram(a));
-        same("stopOfTram " + a, () -> model.stopOfTram(a), () -> network.stopOfTram(a));
-        same("isForward " + a, () -> model.isForward(a), () -> network.isForward(a));
-        same("crowdOf " + a, () -> model.crowdOf(a), () -> network.crowdOf(a));
-        same("stopOfPassenger " + a, () -> model.stopOfPassenger(a), () -> network.stopOfPassenger(a));
-        same("tramOfPassenger " + a, () -> model.tramOfPassenger(a), () -> network.tramOfPassenger(a));
-        same("ridesOf " + a, () -> model.ridesOf(a), () -> network.ridesOf(a));
-        same("carrierOf " + a, () -> model.carrierOf(a), () -> network.carrierOf(a));
-        same("isTruth " + a, () -> model.carrierOf(a) < 0, () -> network.isTruth(a));
-        same("knowerCount " + a, () -> model.knowerCount(a), () -> network.knowerCount(a));
-        same("wisestPassenger " + a, () -> model.wisestPassenger(a), () -> network.wisestPassenger(a));
-    }
-
-    private void compareTwo(int a, int b) {
-        String pair = " " + a + " " + b;
-        same("stopAt" + pair, () -> model.stopAt(a, b), () -> network.stopAt(a, b));
-        same("commonStops" + pair, () -> model.commonStops(a, b), () -> network.commonStops(a, b));
-        same("arrivalOf" + pair, () -> model.arrival(a, b), () -> network.arrivalOf(a, b));
-        same("arrivalBySimulation" + pair, () -> model.arrival(a, b), () -> network.arrivalBySimulation(a, b));
-        same("isValidIn" + pair, () -> model.isValidIn(a, b), () -> network.isValidIn(a, b));
-        same("canBoard" + pair, () -> model.canBoard(a, b), () -> network.canBoard(a, b));
-        same("isTransfer" + pair, () -> model.isTransfer(a, b), () -> network.isTransfer(a, b));
-        same("knows" + pair, () -> model.knows(a, b), () -> network.knows(a, b));
-        if (below(6) == 0) {
-            same("distance" + pair, () -> model.distance(a, b), () -> network.distance(a, b));
-            same("distanceByRelaxation" + pair, () -> model.distance(a, b), () -> network.distanceByRelaxation(a, b));
-            same("changes" + pair, () -> model.changes(a, b), () -> network.changes(a, b));
-            same("changesByGrowth" + pair, () -> model.changes(a, b), () -> network.changesByGrowth(a, b));
+    private void collectQuestionsOfTwo() {
+        collectTwo("stopAt", model::stopAt, network::stopAt);
+        collectTwo("commonStops", model::commonStops, network::commonStops);
+        collectTwo("arrivalOf", model::arrival, network::arrivalOf);
+        collectTwo("arrivalBySimulation", model::arrival, network::arrivalBySimulation);
+        collectTwo("isValidIn", model::isValidIn, network::isValidIn);
+        for (int often = 0; often < 5; often++) {
+            collectTwo("canBoard", model::canBoard, network::canBoard);
+            collectTwo("isTransfer", model::isTransfer, network::isTransfer);
+            collectTwo("knows", model::knows, network::knows);
         }
-    }
-
-    private void compareTexts() {
-        compareText();
-        int line = number(model.world.lines.size());
-        did("writeLine " + line, () -> model.writeLine(line), () -> network.writeLine(line));
-        compareText();
-        int passenger = number(model.world.passengers.size());
-        did("writePassenger " + passenger, () -> model.writePassenger(passenger),
-            () -> network.writePassenger(passenger));
-        compareText();
-    }
-
-    private void compareText() {
-        for (int index = -1; index <= 19; index++) {
-            int at = index;
-            same("textAt " + at, () -> model.textAt(at), () -> network.textAt(at));
-        }
+        collectTwo("distance", model::distance, network::distance);
+        collectTwo("distanceByRelaxation", model::distance, network::distanceByRelaxation);
+        collectTwo("changes", model::changes, network::changes);
+        collectTwo("changesByGrowth", model::changes, network::changesByGrowth);
     }
 }
