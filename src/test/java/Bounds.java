@@ -34,7 +34,27 @@ abstract class Bounds {
         Object to(TramNetwork network, int number);
     }
 
-    abstract void run();
+    /** Each is for one sentence, which it names at its beginning. */
+    abstract Runnable[] tests();
+
+    final void run() {
+        for (Runnable test : tests()) {
+            try {
+                test.run();
+            } catch (RuntimeException e) {
+                check.complain("a call threw " + e + " at " + placeOf(e));
+            }
+        }
+    }
+
+    private static String placeOf(RuntimeException e) {
+        for (StackTraceElement element : e.getStackTrace()) {
+            if (element.getClassName().startsWith("Bounds")) {
+                return element.toString();
+            }
+        }
+        return "an unknown place";
+    }
 
     /** The answer, or the name of the exception. */
     static String outcome(TramNetwork network, Question question) {

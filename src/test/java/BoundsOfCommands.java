@@ -1,11 +1,11 @@
 /** Promises 52 to 55, and what "Terms" says of texts. */
 final class BoundsOfCommands extends Bounds {
     private static final String GRAMMAR = "A command text has the following grammar, with terminals in quotes: text ="
-        + " command { \";\" command }; command = \"stop\" d | \"line\" d d | \"extend\" d d | \"tram\" d | \"rider\" d |"
-        + " \"ticket\" d d d | \"board\" d d | \"alight\" d | \"secret\" d | \"whisper\" d d | \"tick\"; d is a blank and"
-        + " a decimal digit.";
-    private static final String STAND_FOR = "The commands stand for addStop, addLine, extendLine, addTram, addPassenger,"
-        + " sellTicket, board, alight, addSecret, whisper and tick, with their parameters in order.";
+        + " command { \";\" command }; command = \"stop\" d | \"line\" d d | \"extend\" d d | \"tram\" d | \"rider\" d"
+        + " | \"ticket\" d d d | \"board\" d d | \"alight\" d | \"secret\" d | \"whisper\" d d | \"tick\"; d is a blank"
+        + " and a decimal digit.";
+    private static final String STAND_FOR = "The commands stand for addStop, addLine, extendLine, addTram,"
+        + " addPassenger, sellTicket, board, alight, addSecret, whisper and tick, with their parameters in order.";
     private static final String POSITION = "The error position of a malformed text is the index of its first character"
         + " that cannot continue any valid text, or its length if it ends too early.";
     private static final String EXECUTES = "Executes the text in the buffer, which is empty afterwards.";
@@ -25,33 +25,16 @@ final class BoundsOfCommands extends Bounds {
     }
 
     @Override
-    void run() {
-        atMostSixtyCharacters();
-        everyCommandAlone();
-        everyDigit();
-        oneToTwelveCommands();
-        everyCharacterBehindEveryBeginning();
-        everyMethodHasItsCommand();
-        parametersInOrder();
-        positionOfTheFirstWrongCharacter();
-        endsTooEarly();
-        nothingOfAnEarlierText();
-        appendedCharacters();
-        characterOutOfRange();
-        sixtyOneCharacters();
-        emptyAfterwards();
-        allOfThem();
-        noneOfThem();
-        failsWhereItsMethodThrows();
-        numberOfCommands();
-        malformedText();
-        failingText();
-        failingTextKeepsWhatCanBeUndone();
-        errorPosition();
-        noTextMalformed();
-        failedCommand();
-        firstAndLastFailingCommand();
-        noCommandFailed();
+    Runnable[] tests() {
+        return new Runnable[] {
+            this::atMostSixtyCharacters, this::everyCommandAlone, this::everyDigit, this::oneToTwelveCommands,
+            this::everyCharacterBehindEveryBeginning, this::everyMethodHasItsCommand, this::parametersInOrder,
+            this::positionOfTheFirstWrongCharacter, this::endsTooEarly, this::nothingOfAnEarlierText,
+            this::appendedCharacters, this::characterOutOfRange, this::sixtyOneCharacters, this::emptyAfterwards,
+            this::allOfThem, this::noneOfThem, this::failsWhereItsMethodThrows, this::numberOfCommands,
+            this::malformedText, this::failingText, this::failingTextKeepsWhatCanBeUndone, this::errorPosition,
+            this::noTextMalformed, this::failedCommand, this::firstAndLastFailingCommand, this::noCommandFailed,
+        };
     }
 
     private static String filled(int length, char character) {
@@ -233,6 +216,8 @@ final class BoundsOfCommands extends Bounds {
         likeCalls(ten, "line 0 9", one -> one.addLine(0, 9));
         likeCalls(Scene.lines(5), "extend 4 9", one -> one.extendLine(4, 9));
         likeCalls(Scene.lines(5), "extend 0 4", one -> one.extendLine(0, 4));
+        Scene turned = Scene.trams(2).then("2 ticks", one -> Scene.times(2, one::tick));
+        likeCalls(turned, "extend 0 9", one -> one.extendLine(0, 9));
         likeCalls(Scene.lines(5), "tram 4", one -> one.addTram(4));
         likeCalls(ten, "rider 9", one -> one.addPassenger(9));
         likeCalls(Scene.passengers(8), "ticket 7 3 9", one -> one.sellTicket(7, 3, 9));

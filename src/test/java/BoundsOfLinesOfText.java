@@ -2,33 +2,23 @@
 final class BoundsOfLinesOfText extends Bounds {
     private static final String WRITE_LINE = "Writes a line of the network into the line of text, which replaces the"
         + " previous text: its stops with \"-\" between them; for example \"0-3-5\".";
-    private static final String WRITE_PASSENGER = "Writes a passenger into the line of text, which replaces the previous"
-        + " text: the number of the passenger, \"@\" and the stop, or \">\" and the tram, then \"r\" and the number of"
-        + " rides, and \"s\" and the number of each secret that the passenger carries, in ascending order; for example"
-        + " \"2>0r4s1s3\".";
+    private static final String WRITE_PASSENGER = "Writes a passenger into the line of text, which replaces the"
+        + " previous text: the number of the passenger, \"@\" and the stop, or \">\" and the tram, then \"r\" and the"
+        + " number of rides, and \"s\" and the number of each secret that the passenger carries, in ascending order;"
+        + " for example \"2>0r4s1s3\".";
 
     BoundsOfLinesOfText(Check check) {
         super(check);
     }
 
     @Override
-    void run() {
-        shortestAndLongestLine();
-        lineReplacesTheText();
-        lengthOfALine();
-        missingLine();
-        shortestAndLongestPassenger();
-        carriedSecretsOnly();
-        passengerReplacesTheText();
-        lengthOfAPassenger();
-        missingPassenger();
-        emptyAtFirst();
-        firstAndLastCharacter();
-        missingCharacter();
-        meanRides();
-        meanOfNobody();
-        truthShare();
-        shareOfNone();
+    Runnable[] tests() {
+        return new Runnable[] {
+            this::shortestAndLongestLine, this::lineReplacesTheText, this::lengthOfALine, this::missingLine,
+            this::shortestAndLongestPassenger, this::carriedSecretsOnly, this::passengerReplacesTheText,
+            this::lengthOfAPassenger, this::missingPassenger, this::emptyAtFirst, this::firstAndLastCharacter,
+            this::missingCharacter, this::meanRides, this::meanOfNobody, this::truthShare, this::shareOfNone,
+        };
     }
 
     private static Scene line(int... stops) {

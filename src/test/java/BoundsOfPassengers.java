@@ -14,56 +14,23 @@ final class BoundsOfPassengers extends Bounds {
     }
 
     @Override
-    void run() {
-        atMostEightPassengers();
-        atAStopOrOnATram();
-        zonesOfATicket();
-        ridesOfATicket();
-        newTicketWhereAnotherWas();
-        boardingAtTheSameStop();
-        transferToAnotherLineOnly();
-        transferWithinOneTick();
-        transferAfterAnAlightingOnly();
-        transferByTheLastAlighting();
-        eachPassengerAlone();
-        noAlightingWhereAnotherPassengerWas();
-        ticketForTheZone();
-        atLeastOneRide();
-        addingAPassenger();
-        numberOfANewPassenger();
-        passengerAtAMissingStop();
-        ninePassengers();
-        ticketInTheSameZoneTwice();
-        zoneOfASale();
-        ridesOfASale();
-        ridesAfterASale();
-        saleToAMissingPassenger();
-        saleOutOfRange();
-        moreThanTwentyRides();
-        boardingAnswers();
-        boardingOfAMissingPassengerOrTram();
-        boardingFromATram();
-        boardingElsewhere();
-        boardingWithoutATicket();
-        alighting();
-        alightingFromEveryTram();
-        alightingOfAMissingPassenger();
-        alightingAtAStop();
-        passengerCount();
-        stopOfPassenger();
-        stopOfAMissingPassenger();
-        tramOfPassenger();
-        tramOfAMissingPassenger();
-        ridesOf();
-        ridesOfAMissingPassenger();
-        isValidIn();
-        isValidInOfAMissingPassenger();
-        isValidInAMissingZone();
-        canBoard();
-        canBoardOfAMissingPassengerOrTram();
-        isTransfer();
-        isTransferOnATram();
-        isTransferOfAMissingPassengerOrLine();
+    Runnable[] tests() {
+        return new Runnable[] {
+            this::atMostEightPassengers, this::atAStopOrOnATram, this::zonesOfATicket, this::ridesOfATicket,
+            this::newTicketWhereAnotherWas, this::boardingAtTheSameStop, this::transferToAnotherLineOnly,
+            this::transferWithinOneTick, this::transferAfterAnAlightingOnly, this::transferByTheLastAlighting,
+            this::eachPassengerAlone, this::noAlightingWhereAnotherPassengerWas, this::ticketForTheZone,
+            this::atLeastOneRide, this::addingAPassenger, this::numberOfANewPassenger, this::passengerAtAMissingStop,
+            this::ninePassengers, this::ticketInTheSameZoneTwice, this::zoneOfASale, this::ridesOfASale,
+            this::ridesAfterASale, this::saleToAMissingPassenger, this::saleOutOfRange, this::moreThanTwentyRides,
+            this::boardingAnswers, this::boardingOfAMissingPassengerOrTram, this::boardingFromATram,
+            this::boardingElsewhere, this::boardingWithoutATicket, this::alighting, this::alightingFromEveryTram,
+            this::alightingOfAMissingPassenger, this::alightingAtAStop, this::passengerCount, this::stopOfPassenger,
+            this::stopOfAMissingPassenger, this::tramOfPassenger, this::tramOfAMissingPassenger, this::ridesOf,
+            this::ridesOfAMissingPassenger, this::isValidIn, this::isValidInOfAMissingPassenger,
+            this::isValidInAMissingZone, this::canBoard, this::canBoardOfAMissingPassengerOrTram, this::isTransfer,
+            this::isTransferOnATram, this::isTransferOfAMissingPassengerOrLine,
+        };
     }
 
     /** Line 0 is 0-1-2, line 1 is 0-1-3, line 2 is 4-0; trams 0 and 1 on line 0, tram 2 on line 1, 3 on line 2. */
@@ -503,7 +470,8 @@ final class BoundsOfPassengers extends Bounds {
         sentence("P24", "Throws `IllegalStateException` if the ticket would have more than 20 rides");
         for (int rides = 1; rides <= 9; rides++) {
             int sold = rides;
-            answers(withTicket(0, 20 - rides), "sellTicket(0, 1, " + rides + ")", 20, one -> one.sellTicket(0, 1, sold));
+            answers(withTicket(0, 20 - rides), "sellTicket(0, 1, " + rides + ")", 20,
+                one -> one.sellTicket(0, 1, sold));
             refuses(withTicket(0, 21 - rides), "sellTicket(0, 1, " + rides + ")", STATE,
                 one -> one.sellTicket(0, 1, sold));
             refuses(withTicket(0, 20), "sellTicket(0, 0, " + rides + ")", STATE, one -> one.sellTicket(0, 0, sold));
@@ -579,8 +547,8 @@ final class BoundsOfPassengers extends Bounds {
     }
 
     private void boardingWithoutATicket() {
-        sentence("P25", "Throws `UnsupportedOperationException` if the boarding is not a transfer, and the ticket is not"
-            + " valid in the zone of the stop or has no rides");
+        sentence("P25", "Throws `UnsupportedOperationException` if the boarding is not a transfer, and the ticket is"
+            + " not valid in the zone of the stop or has no rides");
         refuses(crossing(), "neither valid nor rides: board(0, 0)", UNSUPPORTED, one -> one.board(0, 0));
         refuses(alighted(1, 0), "valid, but no rides: board(0, 0)", UNSUPPORTED, one -> one.board(0, 0));
         for (int zone = 1; zone < 4; zone++) {

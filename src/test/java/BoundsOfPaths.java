@@ -9,27 +9,15 @@ final class BoundsOfPaths extends Bounds {
     }
 
     @Override
-    void run() {
-        neighbouringPositions();
-        shortestOfSeveralPaths();
-        fewestLines();
-        bothDirections();
-        sameStop();
-        distance();
-        distanceOfMissingStops();
-        distanceWithoutAPath();
-        distanceByRelaxation();
-        relaxationOfMissingStops();
-        relaxationWithoutAPath();
-        changes();
-        changesOfMissingStops();
-        changesWithoutAJourney();
-        changesByGrowth();
-        growthOfMissingStops();
-        growthWithoutAJourney();
-        consistentWhenEmptyAndFull();
-        consistentWithTruths();
-        consistentWhereNothingIsFound();
+    Runnable[] tests() {
+        return new Runnable[] {
+            this::neighbouringPositions, this::shortestOfSeveralPaths, this::fewestLines, this::bothDirections,
+            this::sameStop, this::distance, this::distanceOfMissingStops, this::distanceWithoutAPath,
+            this::distanceByRelaxation, this::relaxationOfMissingStops, this::relaxationWithoutAPath, this::changes,
+            this::changesOfMissingStops, this::changesWithoutAJourney, this::changesByGrowth,
+            this::growthOfMissingStops, this::growthWithoutAJourney, this::consistentWhenEmptyAndFull,
+            this::consistentWithTruths, this::consistentWhereNothingIsFound,
+        };
     }
 
     private interface Pair {
@@ -89,7 +77,8 @@ final class BoundsOfPaths extends Bounds {
     }
 
     private void shortestOfSeveralPaths() {
-        sentence("Terms", "The distance of two stops is the number of steps between adjacent stops on a shortest path.");
+        sentence("Terms", "The distance of two stops is the number of steps between adjacent stops on a shortest"
+            + " path.");
         Scene round = town(6, new int[] {0, 1, 2, 3, 4, 5}, new int[] {5, 0});
         steps(round, 0, 5, 1);
         steps(round, 0, 4, 2);
@@ -307,8 +296,8 @@ final class BoundsOfPaths extends Bounds {
     }
 
     private void consistentWhereNothingIsFound() {
-        sentence("P51", "for all pairs of stops both methods for distances and both methods for changes agree, or neither"
-            + " finds anything");
+        sentence("P51", "for all pairs of stops both methods for distances and both methods for changes agree, or"
+            + " neither finds anything");
         consistent(Scene.stops(2));
         consistent(Scene.stops(10));
         for (int length = 2; length <= 6; length++) {

@@ -16,41 +16,19 @@ final class BoundsOfSecrets extends Bounds {
     }
 
     @Override
-    void run() {
-        oneTramAtATime();
-        atMostSixSecrets();
-        oneCarrierUntilATruth();
-        carriedAndKnownByItsAdder();
-        newSecretWhereAnotherWas();
-        everyoneOnTheTramKnows();
-        everyTramAlone();
-        fromThenOn();
-        allSecretsBecomeTruths();
-        noTruthsElsewhere();
-        terminusAtThisMoment();
-        knowledgeIsNeverLost();
-        carrierOfANewSecret();
-        numberOfANewSecret();
-        secretOfAMissingPassenger();
-        sevenSecrets();
-        listenerCarriesIt();
-        knowersAfterAWhisper();
-        whisperOfAMissingSecretOrToAMissingPassenger();
-        whisperOfATruth();
-        whisperToTheCarrierOrApart();
-        secretCount();
-        carrierOf();
-        carrierOfAMissingSecret();
-        isTruth();
-        isTruthOfAMissingSecret();
-        knows();
-        knowsOfAMissingPassengerOrSecret();
-        knowerCount();
-        knowerCountOfAMissingSecret();
-        wisestInATie();
-        wisestByNumberOfSecrets();
-        firstAndLastRank();
-        missingRank();
+    Runnable[] tests() {
+        return new Runnable[] {
+            this::oneTramAtATime, this::atMostSixSecrets, this::oneCarrierUntilATruth,
+            this::carriedAndKnownByItsAdder, this::newSecretWhereAnotherWas, this::everyoneOnTheTramKnows,
+            this::everyTramAlone, this::fromThenOn, this::allSecretsBecomeTruths, this::noTruthsElsewhere,
+            this::terminusAtThisMoment, this::knowledgeIsNeverLost, this::carrierOfANewSecret,
+            this::numberOfANewSecret, this::secretOfAMissingPassenger, this::sevenSecrets, this::listenerCarriesIt,
+            this::knowersAfterAWhisper, this::whisperOfAMissingSecretOrToAMissingPassenger, this::whisperOfATruth,
+            this::whisperToTheCarrierOrApart, this::secretCount, this::carrierOf, this::carrierOfAMissingSecret,
+            this::isTruth, this::isTruthOfAMissingSecret, this::knows, this::knowsOfAMissingPassengerOrSecret,
+            this::knowerCount, this::knowerCountOfAMissingSecret, this::wisestInATie, this::wisestByNumberOfSecrets,
+            this::firstAndLastRank, this::missingRank,
+        };
     }
 
     /**
@@ -419,8 +397,8 @@ final class BoundsOfSecrets extends Bounds {
     }
 
     private void whisperToTheCarrierOrApart() {
-        sentence("P35", "Throws `UnsupportedOperationException` if the listener is the carrier, or the two are not on the"
-            + " same tram");
+        sentence("P35", "Throws `UnsupportedOperationException` if the listener is the carrier, or the two are not on"
+            + " the same tram");
         refuses(aboard(0, 1), "both at the same stop: whisper(0, 1)", UNSUPPORTED, one -> one.whisper(0, 1));
         refuses(aboard(0, 1), "to the carrier at a stop: whisper(0, 0)", UNSUPPORTED, one -> one.whisper(0, 0));
         refuses(aboard(1, 1), "to the carrier on a tram: whisper(0, 0)", UNSUPPORTED, one -> one.whisper(0, 0));
@@ -432,8 +410,8 @@ final class BoundsOfSecrets extends Bounds {
         Scene left = aboard(3, 1).then("whisper(0, 1)", one -> one.whisper(0, 1));
         refuses(left, "to the carrier of now: whisper(0, 1)", UNSUPPORTED, one -> one.whisper(0, 1));
         answers(left, "to the carrier before: whisper(0, 0)", 3, one -> one.whisper(0, 0));
-        refuses(left.then("alight(2)", one -> one.alight(2)), "to one who has left the tram: whisper(0, 2)", UNSUPPORTED,
-            one -> one.whisper(0, 2));
+        refuses(left.then("alight(2)", one -> one.alight(2)), "to one who has left the tram: whisper(0, 2)",
+            UNSUPPORTED, one -> one.whisper(0, 2));
     }
 
     private void secretCount() {

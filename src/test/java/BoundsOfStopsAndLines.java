@@ -8,46 +8,19 @@ final class BoundsOfStopsAndLines extends Bounds {
     }
 
     @Override
-    void run() {
-        atMostTenStops();
-        atMostFiveLines();
-        zones();
-        twoToSixDifferentStops();
-        ends();
-        terminusOfAnyLine();
-        newObject();
-        newObjectBesideAFullOne();
-        stopOnNoLine();
-        zoneOfANewStop();
-        numberOfANewStop();
-        zoneOutOfRange();
-        elevenStops();
-        lineWithTwoStops();
-        firstStop();
-        secondStop();
-        numberOfANewLine();
-        missingStopOfANewLine();
-        lineWithTheSameStop();
-        sixLines();
-        appendedStop();
-        positionOfAnAppendedStop();
-        missingLineOrStopToExtend();
-        stopOnTheLineAlready();
-        sevenStops();
-        stopCount();
-        zoneOf();
-        zoneOfAMissingStop();
-        isTerminus();
-        isTerminusOfAMissingStop();
-        lineCount();
-        lineLength();
-        lengthOfAMissingLine();
-        stopAt();
-        stopAtOfAMissingLine();
-        stopAtAMissingPosition();
-        commonStops();
-        commonStopsWithItself();
-        commonStopsOfAMissingLine();
+    Runnable[] tests() {
+        return new Runnable[] {
+            this::atMostTenStops, this::atMostFiveLines, this::zones, this::twoToSixDifferentStops, this::ends,
+            this::terminusOfAnyLine, this::newObject, this::newObjectBesideAFullOne, this::stopOnNoLine,
+            this::zoneOfANewStop, this::numberOfANewStop, this::zoneOutOfRange, this::elevenStops,
+            this::lineWithTwoStops, this::firstStop, this::secondStop, this::numberOfANewLine,
+            this::missingStopOfANewLine, this::lineWithTheSameStop, this::sixLines, this::appendedStop,
+            this::positionOfAnAppendedStop, this::missingLineOrStopToExtend, this::stopOnTheLineAlready,
+            this::sevenStops, this::stopCount, this::zoneOf, this::zoneOfAMissingStop, this::isTerminus,
+            this::isTerminusOfAMissingStop, this::lineCount, this::lineLength, this::lengthOfAMissingLine,
+            this::stopAt, this::stopAtOfAMissingLine, this::stopAtAMissingPosition, this::commonStops,
+            this::commonStopsWithItself, this::commonStopsOfAMissingLine,
+        };
     }
 
     private void atMostTenStops() {

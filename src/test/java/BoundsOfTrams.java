@@ -8,40 +8,18 @@ final class BoundsOfTrams extends Bounds {
     }
 
     @Override
-    void run() {
-        atMostSixTrams();
-        alwaysOnItsLine();
-        newTramOnANewLine();
-        newTramWhereAnotherWas();
-        everyTramMoves();
-        turnsAtBothEnds();
-        extendedLine();
-        numberOfANewTram();
-        tramOnAMissingLine();
-        sevenTrams();
-        tickPasses();
-        arrivalsInATick();
-        noArrivals();
-        tickCount();
-        tramCount();
-        lineOfTram();
-        lineOfAMissingTram();
-        stopOfTram();
-        stopOfAMissingTram();
-        isForward();
-        isForwardOfAMissingTram();
-        crowdOf();
-        crowdOfAMissingTram();
-        fullestTram();
-        fullestOfNone();
-        arrivalOf();
-        arrivalAfterAnExtension();
-        arrivalOfAMissingTramOrStop();
-        arrivalAtAStopElsewhere();
-        arrivalBySimulation();
-        simulationChangesNothing();
-        simulationOfAMissingTramOrStop();
-        simulationToAStopElsewhere();
+    Runnable[] tests() {
+        return new Runnable[] {
+            this::atMostSixTrams, this::alwaysOnItsLine, this::newTramOnANewLine, this::newTramWhereAnotherWas,
+            this::everyTramMoves, this::turnsAtBothEnds, this::extendedLine, this::numberOfANewTram,
+            this::tramOnAMissingLine, this::sevenTrams, this::tickPasses, this::arrivalsInATick, this::noArrivals,
+            this::tickCount, this::tramCount, this::lineOfTram, this::lineOfAMissingTram, this::stopOfTram,
+            this::stopOfAMissingTram, this::isForward, this::isForwardOfAMissingTram, this::crowdOf,
+            this::crowdOfAMissingTram, this::fullestTram, this::fullestOfNone, this::arrivalOf,
+            this::arrivalAfterAnExtension, this::arrivalOfAMissingTramOrStop, this::arrivalAtAStopElsewhere,
+            this::arrivalBySimulation, this::simulationChangesNothing, this::simulationOfAMissingTramOrStop,
+            this::simulationToAStopElsewhere,
+        };
     }
 
     /** The position of a tram on a line, so many ticks after the tram was new. */

@@ -19,37 +19,19 @@ final class BoundsOfUndo extends Bounds {
     }
 
     @Override
-    void run() {
-        lastOf512Calls();
-        noneToTwentyModifications();
-        ringOfEight();
-        eightDifferentModifications();
-        everyModification();
-        nothingElse();
-        refusedCallsAreNone();
-        bufferIsNoPart();
-        errorPositionIsNoPart();
-        failedCommandIsNoPart();
-        lineOfTextIsNoPart();
-        refusedModificationsChangeNothing();
-        refusedQuestionsChangeNothing();
-        refusedTextEmptiesTheBuffer();
-        addingExceptions();
-        passengerExceptions();
-        questionExceptions();
-        textExceptions();
-        lastModification();
-        leftToUndo();
-        nothingToUndo();
-        replacedSnapshot();
-        savedPassengers();
-        keptSnapshot();
-        everythingIsRestored();
-        overwrittenNumbersAreRestored();
-        lastAlightingIsRestored();
-        nothingToUndoAfterARestore();
-        restoredPassengers();
-        noSnapshot();
+    Runnable[] tests() {
+        return new Runnable[] {
+            this::lastOf512Calls, this::noneToTwentyModifications, this::ringOfEight,
+            this::eightDifferentModifications, this::everyModification, this::everyModificationOfAFullNetwork,
+            this::nothingElse, this::refusedCallsAreNone,
+            this::bufferIsNoPart, this::errorPositionIsNoPart, this::failedCommandIsNoPart, this::lineOfTextIsNoPart,
+            this::refusedModificationsChangeNothing, this::refusedQuestionsChangeNothing,
+            this::refusedTextEmptiesTheBuffer, this::addingExceptions, this::passengerExceptions,
+            this::questionExceptions, this::textExceptions, this::lastModification, this::leftToUndo,
+            this::nothingToUndo, this::replacedSnapshot, this::savedPassengers, this::keptSnapshot,
+            this::everythingIsRestored, this::overwrittenNumbersAreRestored, this::lastAlightingIsRestored,
+            this::nothingToUndoAfterARestore, this::restoredPassengers, this::noSnapshot,
+        };
     }
 
     private static Scene ticks(int count) {
@@ -66,8 +48,8 @@ final class BoundsOfUndo extends Bounds {
     }
 
     private void lastOf512Calls() {
-        sentence("The head", "An object is used for at most 512 calls after it has been made; what later calls answer is"
-            + " free.");
+        sentence("The head", "An object is used for at most 512 calls after it has been made; what later calls"
+            + " answer is free.");
         answers(ticks(511), "the 512th call: tick()", 0, TramNetwork::tick);
         answers(ticks(511), "the 512th call: undo()", 7, TramNetwork::undo);
         answers(ticks(504), "the last eight calls: undo()", "7 6 5 4 3 2 1 0", one -> {
@@ -200,6 +182,44 @@ final class BoundsOfUndo extends Bounds {
             sameState("the ninth but last is not undone", after,
                 ninth.then("8 undos", one -> Scene.times(8, one::undo)));
         }
+    }
+
+    private void everyModificationOfAFullNetwork() {
+        sentence("Terms", MODIFICATIONS);
+        Scene before = settled(Scene.full().then("undo of the tick", TramNetwork::undo));
+        String[] names = {"sellTicket(7, 3, 1)", "board(0, 5)", "alight(7)", "whisper(5, 2)", "tick()", "a text"};
+        Modification[] modify = {one -> one.sellTicket(7, 3, 1), one -> one.board(0, 5), one -> one.alight(7),
+            one -> one.whisper(5, 2), TramNetwork::tick, BoundsOfUndo::executedInAFullNetwork};
+        for (int index = 0; index < names.length; index++) {
+            Modification modification = modify[index];
+            Scene after = before.then("3 ticks undone, " + names[index], one -> {
+                Scene.times(3, one::tick);
+                Scene.times(3, one::undo);
+                modification.on(one);
+            });
+            answers(after, "undo()", 0, TramNetwork::undo);
+            sameState("undone", before, after.then("undone", TramNetwork::undo));
+            Scene ninth = before.then("8 ticks undone", one -> {
+                Scene.times(8, one::tick);
+                Scene.times(8, one::undo);
+            }).then(names[index] + ", 8 ticks", one -> {
+                modification.on(one);
+                Scene.times(8, one::tick);
+            });
+            answers(ninth, "nine undos", "7 6 5 4 3 2 1 0 IllegalStateException", BoundsOfUndo::undoAll);
+            // After ten ticks all trams are where they were.
+            Scene later = before.then("12 ticks, 2 undos", one -> {
+                Scene.times(12, one::tick);
+                Scene.times(2, one::undo);
+            }).then(names[index], modification::on);
+            answers(later, "nine undos", "6 5 4 3 2 1 0 IllegalStateException IllegalStateException",
+                BoundsOfUndo::undoAll);
+        }
+    }
+
+    private static int executedInAFullNetwork(TramNetwork network) {
+        Scene.executing(network, "board 1 0;tick;tick;tick;tick;tick;alight 7;alight 2");
+        return 8;
     }
 
     private static String undoAll(TramNetwork network) {

@@ -18,8 +18,9 @@ final class Document {
         "Trams.", "Passengers and tickets.", "Boarding.", "Secrets.", "Paths.", "Text.", "Undo.", "Exceptions.",
         "Ahead of the calls", "Lines of text, statistics and checks.", "Text, undo and snapshots.");
 
-    private static final Pattern BOUNDARY =
-        Pattern.compile("^Throws |\\d|empty|kept|replaces|included|tie|same|equal|false|all of them|nothing|no line yet");
+    // What a sentence of a promise has in it that names a boundary case.
+    private static final Pattern BOUNDARY = Pattern.compile("^Throws |\\d|empty|kept|replaces|included|tie|same|equal"
+        + "|false|all of them|nothing|no line yet");
 
     private final Map<String, String> sections = new TreeMap<>();
 

@@ -61,7 +61,7 @@ final class Scene {
         } catch (IllegalArgumentException | IllegalStateException e) {
             return;
         }
-        throw new AssertionError("'" + text + "' is executed");
+        throw new IllegalStateException("'" + text + "' is executed");
     }
 
     static void times(int count, Runnable call) {
