@@ -677,13 +677,35 @@ final class BoundsOfUndo extends Bounds {
         Scene second = first.then("saved, all undone, other calls, restored", one -> {
             one.save();
             Scene.times(4, one::undo);
-            Scene.executing(one, "stop 3;stop 2;stop 1;stop 0;line 3 2;line 1 0;tram 1");
-            Scene.executing(one, "extend 1 2;extend 0 0;tram 0;rider 3;rider 1;rider 1");
-            Scene.executing(one, "ticket 1 1 3;ticket 2 2 2;ticket 0 3 1;board 2 0;secret 2");
-            Scene.executing(one, "tick;tick;secret 0;secret 2;alight 2");
+            otherNetwork(one);
             one.restore();
         });
         sameState("restored", first, second);
+    }
+
+    private static void otherNetwork(TramNetwork network) {
+        for (int stop = 0; stop < 4; stop++) {
+            network.addStop(3 - stop);
+        }
+        network.addLine(3, 2);
+        network.addLine(1, 0);
+        network.addTram(1);
+        network.extendLine(1, 2);
+        network.extendLine(0, 0);
+        network.addTram(0);
+        network.addPassenger(3);
+        network.addPassenger(1);
+        network.addPassenger(1);
+        network.sellTicket(1, 1, 3);
+        network.sellTicket(2, 2, 2);
+        network.sellTicket(0, 3, 1);
+        network.board(2, 0);
+        network.addSecret(2);
+        network.tick();
+        network.tick();
+        network.addSecret(0);
+        network.addSecret(2);
+        network.alight(2);
     }
 
     private void lastAlightingIsRestored() {
