@@ -7,6 +7,9 @@ import java.util.NoSuchElementException;
  * Every modification has two halves in State: one that tells the fault of the call, without changing anything,
  * and one that makes the change and is used only where there is no fault. So a command text can fail without
  * exceptions inside, and a call that throws has changed nothing.
+ *
+ * An index is tested where it comes in, by require.. or by faultOf..; so the rows hold only numbers that were tested
+ * when they were put in, the totals never pass their limits, and what is read from them can be an index at once.
  */
 public final class TramNetwork {
     private static final int MAX_STOPS = 10;
